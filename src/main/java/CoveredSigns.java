@@ -51,12 +51,12 @@ public final class CoveredSigns {
     private final Codes codes = new Codes();
     private final Outlook outlook = new Outlook();
     private final int[] kept = new int[KEPT_SIZE];
+    private boolean isWoven;
     private int tapeSize;
     private int images;
 
     public CoveredSigns() {
         covers.beOne(0);
-        tangle.weave(letters, 0);
         Arrays.fill(kept, UNKNOWN);
     }
 
@@ -181,6 +181,7 @@ public final class CoveredSigns {
     }
 
     public int confusions() {
+        weave();
         return tangle.pairs;
     }
 
@@ -284,6 +285,7 @@ public final class CoveredSigns {
     public int changed(int what) throws IllegalArgumentException {
         needWhat(what, 2);
         if (keptAt(KEPT_CHANGED) == UNKNOWN) {
+            weave();
             repair.find(tangle);
             keep(KEPT_CHANGED, repair.count);
             keep(KEPT_CHANGED + 1, repair.first);
@@ -294,6 +296,7 @@ public final class CoveredSigns {
 
     public int bound() {
         if (keptAt(KEPT_BOUND) == UNKNOWN) {
+            weave();
             keep(KEPT_BOUND, tangle.mostApartPairs());
         }
         return keptAt(KEPT_BOUND);
@@ -302,6 +305,7 @@ public final class CoveredSigns {
     public int steps(int what) throws IllegalArgumentException {
         needWhat(what, 1);
         if (keptAt(KEPT_STEPS) == UNKNOWN) {
+            weave();
             keep(KEPT_STEPS, repair.walk(tangle));
             keep(KEPT_STEPS + 1, repair.pairsLeft());
         }
@@ -464,7 +468,14 @@ public final class CoveredSigns {
 
     private void renew() {
         Arrays.fill(kept, UNKNOWN);
-        tangle.weave(letters, 2 * scene.dirt);
+        isWoven = false;
+    }
+
+    private void weave() {
+        if (!isWoven) {
+            tangle.weave(letters, 2 * scene.dirt);
+            isWoven = true;
+        }
     }
 
     private int keptAt(int slot) {
@@ -570,11 +581,11 @@ public final class CoveredSigns {
         private int place = NONE;
 
         Scan(byte[] text) {
-            this.text = text;
+            this.text = text == null ? new byte[0] : text;
         }
 
         void begin(int bytes) {
-            length = text == null ? 0 : Math.max(0, Math.min(bytes, text.length));
+            length = Math.max(0, Math.min(bytes, text.length));
             at = 0;
             kind = 0;
             place = NONE;
@@ -603,10 +614,8 @@ public final class CoveredSigns {
 
         /** Where the next thing begins, or the length. */
         int next() {
-            for (; at < length; at++) {
-                if (byteAt(at) != ' ') {
-                    return at;
-                }
+            while (at >= 0 && at < length && at < text.length && text[at] == ' ') {
+                at++;
             }
             return at;
         }
@@ -656,7 +665,7 @@ public final class CoveredSigns {
         }
 
         int byteAt(int where) {
-            if (text == null || where < 0 || where >= length || where >= text.length) {
+            if (where < 0 || where >= length || where >= text.length) {
                 return NONE;
             }
             return text[where] & 255;
@@ -1130,14 +1139,16 @@ public final class CoveredSigns {
         }
 
         void sort() {
-            for (int i = 1; i < size && i < MAX_COVERS; i++) {
-                int moving = cells[i];
-                int to = i;
-                while (to > 0 && isBefore(moving, cells[to - 1])) {
-                    cells[to] = cells[to - 1];
-                    to--;
+            for (int gap = 364; gap > 0; gap /= 3) {
+                for (int i = gap; i < size && i < MAX_COVERS; i++) {
+                    int moving = cells[i];
+                    int to = i;
+                    while (to >= gap && isBefore(moving, cells[to - gap])) {
+                        cells[to] = cells[to - gap];
+                        to -= gap;
+                    }
+                    cells[to] = moving;
                 }
-                cells[to] = moving;
             }
         }
 
@@ -1295,24 +1306,20 @@ public final class CoveredSigns {
                 }
                 return single(open + 1, level) && complement(at(level));
             }
-            return atom(at(level), place);
-        }
-
-        private boolean atom(Covers into, int place) {
             if (scan.takesWord("side")) {
-                return side(into);
+                return side(at(level));
             }
             if (scan.takesWord("corner")) {
-                return corner(into);
+                return corner(at(level));
             }
             if (scan.takesWord("any")) {
-                return any(into);
+                return any(at(level));
             }
             if (scan.takesWord("front")) {
-                return front(into);
+                return front(at(level));
             }
             if (scan.takesWord("fog")) {
-                return fog(into);
+                return fog(at(level));
             }
             return scan.blame(CANNOT_STAND, place);
         }
@@ -1529,19 +1536,15 @@ public final class CoveredSigns {
         }
 
         int signOf(int board) {
-            return stands(board) ? sign[board] : NONE;
+            return board >= 0 && board < standing && board < MAX_STANDING ? sign[board] : NONE;
         }
 
         int leftOf(int board) {
-            return stands(board) ? left[board] : 0;
+            return board >= 0 && board < standing && board < MAX_STANDING ? left[board] : 0;
         }
 
         int farOf(int board) {
-            return stands(board) ? far[board] : 1;
-        }
-
-        private boolean stands(int board) {
-            return board >= 0 && board < standing && board < MAX_STANDING;
+            return board >= 0 && board < standing && board < MAX_STANDING ? far[board] : 1;
         }
     }
 
@@ -1645,6 +1648,17 @@ public final class CoveredSigns {
             return board() & ~still;
         }
 
+        /** Whether all pairs that are confused have a sign, or one other sign, in common with it. */
+        boolean hangsOn(int sign) {
+            for (int other = 0; other < signs; other++) {
+                int both = isSign(sign) ? mixed[sign] >> other & 1 : 0;
+                if (other != sign && pairs == degree(sign) + degree(other) - both) {
+                    return true;
+                }
+            }
+            return false;
+        }
+
         /** How many pairs would be confused with one cell of one sign changed. */
         int pairsWith(int sign, int cell) {
             if (!isSign(sign)) {
@@ -1660,7 +1674,13 @@ public final class CoveredSigns {
         }
 
         int mostApartPairs() {
-            return pairUp(0, 0, 0, 0);
+            int alone = 0;
+            for (int sign = 0; sign < signs; sign++) {
+                if (degree(sign) == 0) {
+                    alone |= 1 << sign;
+                }
+            }
+            return pairUp(0, alone, 0, 0);
         }
 
         /** Signs from sign on are paired, those of used are not free: the most pairs, or best if not more. */
@@ -1724,7 +1744,7 @@ public final class CoveredSigns {
                 return;
             }
             for (int sign = 0; sign < now.signs; sign++) {
-                for (int cell = 0; cell < now.cells; cell++) {
+                for (int cell = 0; cell < now.cells && now.hangsOn(sign); cell++) {
                     trial.copyFrom(now);
                     trial.flip(sign, cell);
                     if (endsBehind(sign, cell)) {
@@ -1863,8 +1883,7 @@ public final class CoveredSigns {
         private final long[] mixed = new long[WORDS_OF_BITS];
         private final long[] blocked = new long[WORDS_OF_BITS];
         private final long[] apart = new long[WORDS_OF_BITS];
-        private final int[] order = new int[LEVELS * 64];
-        private final int[] shade = new int[LEVELS * 64];
+        private final int[] shaded = new int[LEVELS * 64];
         private int best;
         private int limit;
 
@@ -1911,19 +1930,18 @@ public final class CoveredSigns {
             for (int paint = 0; paint < 1 << cells; paint++) {
                 if (!has(blocked, paint)) {
                     count++;
-                    blockFrom(paint, 1 << cells);
+                    blockFrom(paint);
                 }
             }
             return count;
         }
 
-        private void blockFrom(int paint, int paints) {
-            for (int unlike = 1; unlike < paints; unlike++) {
-                long row = unlike >> 6 < WORDS_OF_BITS ? mixed[unlike >> 6] : 0L;
-                if (row == 0L) {
-                    unlike |= 63;
-                } else if (has(mixed, unlike)) {
-                    put(blocked, paint ^ unlike);
+        private void blockFrom(int paint) {
+            for (int index = 0; index < WORDS_OF_BITS; index++) {
+                for (int bit = 0; bit < 64 && mixed[index] != 0L; bit++) {
+                    if ((mixed[index] >>> bit & 1L) != 0L) {
+                        put(blocked, paint ^ (64 * index + bit));
+                    }
                 }
             }
         }
@@ -1937,7 +1955,6 @@ public final class CoveredSigns {
             if (mixed[0] == 0L) {
                 return paints;
             }
-            long others = 0L;
             for (int paint = 0; paint < paints && paint < 64; paint++) {
                 apart[paint] = 0L;
                 for (int other = 0; other < paints; other++) {
@@ -1946,11 +1963,25 @@ public final class CoveredSigns {
                     }
                 }
             }
-            others = apart[0];
             best = 1;
-            limit = paints;
-            grow(others, 1);
+            limit = paints / ball(covers.largest(), cells, dirt);
+            grow(apart[0], 1);
             return best;
+        }
+
+        /**
+         * How many paints are all confused with each other: what the largest cover hides may be any,
+         * and d cells beside it. Boards look alike from any paint, so signs have such a ball each.
+         */
+        private int ball(int hidden, int cells, int dirt) {
+            int free = Math.max(0, cells - hidden);
+            int ways = 1;
+            int beside = 1;
+            for (int unlike = 1; unlike <= dirt && unlike <= free; unlike++) {
+                ways = ways * (free - unlike + 1) / unlike;
+                beside += ways;
+            }
+            return Math.max(1, beside << Math.min(hidden, MOST_CELLS));
         }
 
         /** All boards look alike from any paint, so paint 0 is always one of the signs. */
@@ -1962,11 +1993,11 @@ public final class CoveredSigns {
             int count = arrange(candidates, size * 64);
             long left = candidates;
             for (int i = count - 1; i >= 0 && i < 64; i--) {
-                int slot = size * 64 + i;
-                if (best >= limit || size + shade[slot] <= best) {
+                int next = shaded[size * 64 + i];
+                if (best >= limit || size + (next >> 6) <= best) {
                     return;
                 }
-                int paint = order[slot] & 63;
+                int paint = next & 63;
                 grow(left & apart[paint], size + 1);
                 left &= ~(1L << paint);
             }
@@ -1983,9 +2014,8 @@ public final class CoveredSigns {
                     pool &= ~(1L << paint) & ~apart[paint];
                     left &= ~(1L << paint);
                     int slot = base + count;
-                    if (slot >= 0 && slot < order.length && slot < shade.length) {
-                        order[slot] = paint;
-                        shade[slot] = colour;
+                    if (slot >= 0 && slot < shaded.length) {
+                        shaded[slot] = 64 * colour + paint;
                         count++;
                     }
                 }
@@ -1994,38 +2024,27 @@ public final class CoveredSigns {
         }
     }
 
-    /** Which columns of standing ones are seen, from each place of a ship. */
+    /** Which columns of standing ones are seen; each board is surveyed no farther than was asked for. */
     private static final class Outlook {
         private final int[] from = new int[MAX_STANDING * SHIPS];
         private final int[] by = new int[MAX_STANDING * SHIPS];
-        private boolean ready;
+        private final int[] surveyed = new int[MAX_STANDING];
 
         void spoil() {
-            ready = false;
+            Arrays.fill(surveyed, 0);
         }
 
         int columns(Scene scene, int width, int board, int s, boolean so) {
-            if (!ready) {
-                survey(scene, width);
-                ready = true;
-            }
-            int slot = board * SHIPS + s;
-            if (board < 0 || s < 0 || s >= SHIPS || slot >= from.length || slot >= by.length) {
+            if (board < 0 || board >= MAX_STANDING || s < 0 || s >= SHIPS) {
                 return 0;
             }
-            return so ? by[slot] : from[slot];
-        }
-
-        private void survey(Scene scene, int width) {
-            for (int board = 0; board < scene.standing && board < MAX_STANDING; board++) {
-                int so = 0;
-                for (int s = 0; s < SHIPS; s++) {
-                    int open = openColumns(scene, width, board, s);
-                    so |= open;
-                    from[board * SHIPS + s] = open;
-                    by[board * SHIPS + s] = so;
-                }
+            int base = board * SHIPS;
+            for (int ship = surveyed[board]; ship >= 0 && ship <= s; ship++) {
+                from[base + ship] = openColumns(scene, width, board, ship);
+                by[base + ship] = from[base + ship] | (ship > 0 ? by[base + ship - 1] : 0);
+                surveyed[board] = ship + 1;
             }
+            return so ? by[base + s] : from[base + s];
         }
 
         private int openColumns(Scene scene, int width, int board, int s) {
@@ -2038,17 +2057,16 @@ public final class CoveredSigns {
             return bits;
         }
 
+        /** All lengths are taken 2 Y times, so that the middle and the way past a board are whole numbers. */
         private boolean isHidden(Scene scene, int width, int board, int column, int s) {
             int far = scene.farOf(board);
             int aside = 2 * (scene.leftOf(board) + column - s) + 1;
             for (int other = 0; other < scene.standing; other++) {
                 int near = scene.farOf(other);
-                if (other != board && near < far) {
-                    int way = 2 * s * far + aside * near;
-                    int left = 2 * far * scene.leftOf(other);
-                    if (left <= way && way <= left + 2 * far * width) {
-                        return true;
-                    }
+                int way = 2 * s * far + aside * near;
+                int left = 2 * far * scene.leftOf(other);
+                if (near < far && left <= way && way <= left + 2 * far * width) {
+                    return true;
                 }
             }
             return false;
