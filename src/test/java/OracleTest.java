@@ -213,6 +213,7 @@ public final class OracleTest {
                     same(null, "count(" + w + ")", () -> signs.count(w), () -> oracle.count(w));
                 }
         }
+        same(null, "confusions()", signs::confusions, oracle::confusions);
         same(null, "words()", signs::words, oracle::words);
         for (int place = -1; place < 7; place++) {
             int p = place;

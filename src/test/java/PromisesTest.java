@@ -10,6 +10,9 @@ public final class PromisesTest {
     private static final String FOUR = "board 3 2;sign;across 0 0 3;sign;down 0 0 2;turned 1;mirror 1;"
             + "family 0 0;family 1 2;family 0 1;word ab;word aa;word cdab;";
 
+    /** One sign that has paint on all thirty cells. */
+    private static final String FULL = "sign;across 0 0 6;across 0 1 6;across 0 2 6;across 0 3 6;across 0 4 6;";
+
     private PromisesTest() {
     }
 
@@ -147,6 +150,20 @@ public final class PromisesTest {
         alphabetIs("sign;word aaaaaab;", -8, 10);
         alphabetIs("sign;word aaaaaa;", 1, -1);
         alphabetIs("sign;worda;", -9, 5);
+        alphabetIs("sign;word z;", -8, 10);
+        alphabetIs("sign;word az;", -8, 10);
+        alphabetIs("sign;word a1;", -9, 11);
+        alphabetIs("sign;clean 6 0;", -8, 11);
+        alphabetIs("sign;clean 0 5;", -8, 13);
+        alphabetIs("sign;clean 5 4;", 1, -1);
+        alphabetIs("board 7;", -8, 6);
+        alphabetIs("board 6;", -9, 7);
+        alphabetIs("sign;across 9;", -8, 12);
+        alphabetIs("sign;across 0 9;", -8, 14);
+        alphabetIs("sign;clean 9;", -8, 11);
+        alphabetIs("sign;family 9;", -8, 12);
+        alphabetIs("board 6 5;sign;across 5 4 1;down 5 4 1;", 1, -1);
+        alphabetIs("board 2 2;sign;across 2 0 1;", -8, 22);
         alphabetIs("board 1 2;", -8, 6);
         alphabetIs("board 7 2;", -8, 6);
         alphabetIs("board 2 6;", -8, 8);
@@ -232,6 +249,11 @@ public final class PromisesTest {
         ruleIs("front 3 3 1 1", -8, 8);
         ruleIs("front 3 2 2 1", -8, 10);
         ruleIs("front 3 2 1 2", -8, 12);
+        ruleIs("front 9", -8, 6);
+        ruleIs("front 0 9", -8, 8);
+        ruleIs("front 0 0 9", -8, 10);
+        ruleIs("side 9", -8, 5);
+        ruleIs("corner 9", -8, 7);
         ruleIs("fog 2", -8, 4);
         ruleIs("fog 0 fog 1", -9, 6);
         ruleIs("fog 0 or", -9, 8);
@@ -454,6 +476,7 @@ public final class PromisesTest {
         Texts.dueThrow("no cover", NO_INDEX, () -> x.nearest(3, 0));
         Texts.dueThrow("beside the board", ILLEGAL, () -> x.nearest(0, 64));
         due("without signs", new CoveredSigns().nearest(0, 5), -1);
+        due("all thirty unlike", Texts.with(FULL, "").nearest(0, 0), 0);
     }
 
     private static void part() {
@@ -580,6 +603,9 @@ public final class PromisesTest {
         due("one of none is nearer", Texts.with(signs + "family 0 0;family 0 1;", "").strangers(), 3);
         due("one of another", Texts.with(signs + "family 0 0;family 0 1;family 1 2;", "").strangers(), 3);
         due("as near is not nearer", Texts.with(signs + "family 0 0;family 0 2;", "").strangers(), 0);
+        due("thirty cells away, with no other sign", Texts.with(FULL + "sign;family 0 0;family 0 1;", "").strangers(), 0);
+        due("thirty cells away, another nearer",
+                Texts.with(FULL + "sign;sign;across 0 0 1;family 0 0;family 0 1;", "").strangers(), 3);
         due("nearer than all of its own",
                 Texts.with(signs + "sign;across 0 0 1;family 0 0;family 0 1;family 0 2;", "").strangers(), 4);
     }
@@ -864,6 +890,33 @@ public final class PromisesTest {
         due("one part", x.count(0), 1);
         due("the rule is as told last", x.cover(0), 0);
         due("nothing more", x.restore(), -1);
+        threeImages();
+    }
+
+    /** Each image holds its own things, and answers that hang on d are told anew. */
+    private static void threeImages() {
+        CoveredSigns x = Texts.with(FOUR, "");
+        for (int i = 0; i < 3; i++) {
+            x.dirt(i);
+            x.part(0, i);
+            x.stand(i, 10 * i, 5);
+            x.image();
+        }
+        x.dirt(3);
+        x.forget();
+        x.leave();
+        due("with d 3", x.confusions(), 6);
+        int[] pairs = {1, 1, 6};
+        for (int i = 2; i >= 0; i--) {
+            due("left", x.restore(), i);
+            due("d", x.told(5), i);
+            due("parts", x.count(0), i + 1);
+            due("standing ones", x.count(1), i + 1);
+            due("the last of them", x.guess(i, 0, false) >> i & 1, 1);
+            due("pairs", x.confusions(), pairs[i]);
+            due("blind", x.blind(1), pairs[i]);
+            due("bound", x.bound(), i < 2 ? 1 : 2);
+        }
     }
 
     private static void count() {
