@@ -115,7 +115,7 @@ public final class OracleTest {
                     () -> oracle.feed(Texts.number(text, from), Texts.number(text, from + 4), Texts.number(text, from + 8),
                     Texts.number(text, from + 12), Texts.number(text, from + 16)));
         }
-        int n = oneIn(20) ? draw(520) - 8 : Math.min(text.length(), oracle.count(3));
+        int n = oneIn(20) ? oneIn(5) ? index(0) : draw(520) - 8 : Math.min(text.length(), oracle.count(3));
         String call = (alphabet ? "alphabet" : "rule") + "(" + n + " of " + text + ")";
         same(told, call, () -> alphabet ? signs.alphabet(n) : signs.rule(n), () -> alphabet ? oracle.alphabet(n) : oracle.rule(n));
         same(told, "fault()", signs::fault, oracle::fault);
@@ -142,6 +142,9 @@ public final class OracleTest {
     }
 
     private static int index(int size) {
+        if (oneIn(60)) {
+            return oneIn(2) ? Integer.MIN_VALUE + draw(3) : Integer.MAX_VALUE - draw(3);
+        }
         return oneIn(12) ? draw(size + 6) - 3 : draw(Math.max(1, size));
     }
 
@@ -225,7 +228,7 @@ public final class OracleTest {
     private static int views(CoveredSigns signs, Oracle oracle, StringBuilder told) {
         boolean so = oneIn(2);
         int b = index(oracle.count(1));
-        int s = oneIn(15) ? draw(140) - 20 : draw(40);
+        int s = oneIn(15) ? oneIn(4) ? index(100) : draw(140) - 20 : draw(40);
         same(null, "seen(" + b + ", " + s + ", " + so + ")", () -> signs.seen(b, s, so), () -> oracle.seen(b, s, so));
         same(null, "guess(" + b + ", " + s + ", " + so + ")", () -> signs.guess(b, s, so), () -> oracle.guess(b, s, so));
         same(null, "known(" + b + ", " + so + ")", () -> signs.known(b, so), () -> oracle.known(b, so));
