@@ -1838,7 +1838,7 @@ public final class CoveredSigns {
 
         /** Adds the highest cell first, the lowest possible, so that what is found first is least. */
         private boolean grows(int chosen, int more, int below) {
-            if (more < 0 || isHopeless(chosen, more, below)) {
+            if (more < 0 || more > MAX_PART || isHopeless(chosen, more, below)) {
                 return false;
             }
             if (more == 0) {
