@@ -222,11 +222,17 @@ public final class CoveredSigns {
     }
 
     public int words() {
-        return rowWords();
+        int open = 0;
+        for (int word = 0; word < letters.words; word++) {
+            if (letters.lengthOf(word) == scene.parts && rowMayBe(word)) {
+                open |= 1 << word;
+            }
+        }
+        return open;
     }
 
     public int sure(int place) {
-        int open = rowWords();
+        int open = words();
         if (place < 0 || place >= scene.parts || open == 0) {
             return NONE;
         }
@@ -504,16 +510,6 @@ public final class CoveredSigns {
 
     private static int lowestOf(int bits) {
         return Integer.bitCount((bits & -bits) - 1);
-    }
-
-    private int rowWords() {
-        int open = 0;
-        for (int word = 0; word < letters.words; word++) {
-            if (letters.lengthOf(word) == scene.parts && rowMayBe(word)) {
-                open |= 1 << word;
-            }
-        }
-        return open;
     }
 
     private boolean rowMayBe(int word) {
@@ -1440,14 +1436,21 @@ public final class CoveredSigns {
             left.copyFrom(spare);
         }
 
+        /** Where one hides nearly all, most of the others add nothing: the same comes again and again. */
         private void overlay(Covers left, Covers right) {
             if (over) {
                 return;
             }
             beginSpare();
             for (int i = 0; i < left.size && !over; i++) {
+                int one = left.at(i);
+                int latest = NONE;
                 for (int j = 0; j < right.size && !over; j++) {
-                    addOnce(left.at(i) | right.at(j));
+                    int both = one | right.at(j);
+                    if (both != latest) {
+                        addOnce(both);
+                        latest = both;
+                    }
                 }
             }
             left.copyFrom(spare);
