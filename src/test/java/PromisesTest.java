@@ -602,6 +602,7 @@ public final class PromisesTest {
         due("without others of its own", Texts.with(signs + "family 0 0;", "").strangers(), 0);
         due("one of none is nearer", Texts.with(signs + "family 0 0;family 0 1;", "").strangers(), 3);
         due("one of another", Texts.with(signs + "family 0 0;family 0 1;family 1 2;", "").strangers(), 3);
+        due("one of none is no stranger", Texts.with(signs + "family 0 2;", "").strangers(), 0);
         due("as near is not nearer", Texts.with(signs + "family 0 0;family 0 2;", "").strangers(), 0);
         due("thirty cells away, with no other sign", Texts.with(FULL + "sign;family 0 0;family 0 1;", "").strangers(), 0);
         due("thirty cells away, another nearer",

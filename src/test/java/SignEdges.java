@@ -257,6 +257,9 @@ final class SignEdges {
         strangersAre(three + "across 0 0 1;family 0 0;family 0 1;family 3 2;", 3);
         strangersAre(three + "across 0 0 1;family 0 0;family 3 2;", 0);
         strangersAre(three + "across 0 0 1;family 0 0;family 1 1;family 3 2;", 0);
+        Edges.says(25, "STRANGER: a SIGN of one to which some SIGN of none, or another one, is nearer");
+        strangersAre(three + "across 0 0 1;family 3 2;", 0);
+        strangersAre(three + "across 0 0 1;", 0);
         StringBuilder all = new StringBuilder("board 2 2;");
         for (int sign = 0; sign < 12; sign++) {
             all.append("sign;").append(sign / 4 == 0 ? "" : "across 0 0 " + sign / 4 + ";");

@@ -374,6 +374,12 @@ final class TextEdges {
         for (String clause : new String[] {"sign", "across", "down", "clean", "turned", "mirror", "family", "word", "board"}) {
             Edges.alphabetIs(clauses(60) + "  " + clause, -7, clauses(60).length() + 2);
         }
+        String room = "sign;".repeat(11) + "word a;".repeat(7) + "clean0 0;".repeat(41);
+        for (String clause : new String[] {"sign;", "across0 0 1;", "down0 0 1;", "clean0 0;", "turned0;", "mirror0;", "family0 0;", "word a;"}) {
+            boolean more = clause.equals("sign;") || clause.equals("turned0;") || clause.equals("mirror0;");
+            Edges.alphabetIs(room + clause, more ? 12 : 11, NONE);
+            Edges.alphabetIs(room + "clean0 0;" + clause, -7, room.length() + 9);
+        }
         String board = "board 2 2;" + "sign;".repeat(12) + "clean0 0;".repeat(46) + "clean0 0";
         Edges.alphabetIs(board + ";", 12, NONE);
         Edges.alphabetIs(board + ";sign;", -7, board.length() + 1);
